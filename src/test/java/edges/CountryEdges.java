@@ -259,9 +259,13 @@ final class CountryEdges extends Edge {
         }
     }
 
-    /** b=0 holds of the one there is, b=1 does not. */
-    private static String test(boolean holds) {
-        return holds ? "b=0" : "b=1";
+    /** A test of each sign in turn that holds of the one there is, which has the number 0 and v 5, or does not. */
+    private static String test(int turn, boolean holds) {
+        switch (turn % 3) {
+            case 0: return holds ? "b=0" : "b=1";
+            case 1: return holds ? "v<6" : "v<5";
+            default: return holds ? "v>4" : "v>5";
+        }
     }
 
     private static boolean join(boolean one, boolean and, boolean other) {
@@ -284,24 +288,29 @@ final class CountryEdges extends Edge {
             String other = then ? "&" : "|";
             boolean first = join(join(a, and, b), then, c);
             boolean last = join(a, and, join(b, then, c));
-            holds(test(a) + one + test(b) + other + test(c), and ? first : last);
-            holds("(" + test(a) + one + test(b) + ")" + other + test(c), first);
-            holds(test(a) + one + "(" + test(b) + other + test(c) + ")", last);
-            holds("!" + test(!a) + one + "!" + test(!b) + other + "!" + test(!c), and ? first : last);
-            holds("!(" + test(a) + one + test(b) + ")" + other + test(c), join(!join(a, and, b), then, c));
-            holds("!(" + test(a) + one + "!(" + test(b) + other + test(c) + "))", !join(a, and, !join(b, then, c)));
+            for (int turn = 0; turn < 3; turn++) {
+                String x = test(turn, a) + one;
+                String y = test(turn + 1, b);
+                String z = other + test(turn + 2, c);
+                holds(x + y + z, and ? first : last);
+                holds("(" + x + y + ")" + z, first);
+                holds(x + "(" + y + z + ")", last);
+                holds("!" + test(turn, !a) + one + "!" + test(turn, !b) + other + "!" + test(turn, !c), and ? first : last);
+                holds("!(" + x + y + ")" + z, join(!join(a, and, b), then, c));
+                holds("!(" + x + "!(" + y + z + "))", !join(a, and, !join(b, then, c)));
+            }
         }
     }
 
     /** As deep as it may be nested, and as much left open at once as there can be. */
     private static void joinedDeep() {
         for (int bits = 0; bits < 2048; bits++) {
-            String e = test((bits & 1) != 0);
+            String e = test(bits >> 3, (bits & 1) != 0);
             boolean holds = (bits & 1) != 0;
             for (int i = 0; i < 5; i++) {
                 boolean and = (bits >> 2 * i + 1 & 1) != 0;
                 boolean or = (bits >> 2 * i + 2 & 1) != 0;
-                e = test(or) + "|" + test(and) + "&" + (i == 0 ? e : "(" + e + ")");
+                e = test(bits + i, or) + "|" + test(i, and) + "&" + (i == 0 ? e : "(" + e + ")");
                 holds = or || and && holds;
             }
             holds(e, holds);
@@ -310,7 +319,7 @@ final class CountryEdges extends Edge {
 
     private static int rateIn(String country) {
         WellLendsDepth x = Script.in(country);
-        x.borrower(BORROWER, 0, 1, 1);
+        x.borrower(BORROWER, 5, 1, 1);
         return x.of(0, 8);
     }
 

@@ -79,18 +79,21 @@ final class ImageEdges extends Edge {
     private static void rowsOfHand() {
         says(30, "SEEN, the YEAR, the BOOK, which COUNTRY holds.");
         WellLendsDepth x = Script.well("borrower 0 0 20 1", "borrower 0 0 30 1", "pass 2");
-        Script.play(x, "see 100 10", "see 100 3", "see 50 1", "see 50 1", "see 50 1");
+        // on DAY 3 both bring back, on DAY 4 both come again, on DAY 7 they bring back
+        Script.play(x, "see 50 0", "see 50 1", "see 100 2", "see 50 3", "see 50 5");
         Script.play(x, "year 1 0", "year 2 1", "year 2 1", "year 1 1", "year 0 0", "year 0 0", "year 1 0", "year 1 0",
             "year 1 0", "year 2 0");
         Script.play(x, "book 0 2", "book 1 3", "book 0 2", "book 1 3", "book 0 2", "book 1 3", "book 0 2", "book 1 4");
         int[] fits = {x.wanted(0, 0), x.wanted(1, 1)};
+        due("20 alone is so", fits[0], 1);
+        due("30 is so", fits[1], 30);
         int gone = x.gone(0);
         due("the eighth is otherwise", x.looked(), 7);
         for (int rows = 0; rows <= 10; rows++) {
             x.image();
             Script.play(x, "see -1 0", "year -1 0", "book -1 0");
             for (int i = 0; i < rows; i++) {
-                x.see(i, i);
+                x.see(i, 10 - i);
                 x.year(i % 2 * 2, 1);
                 x.year(1, 1);
                 x.book(1, i);

@@ -63,6 +63,18 @@ final class YearEdges extends Edge {
             due("DEPTH of " + i + " DAYS", x.gone(0), x.on(i, 0));
             due("SENT of " + i + " DAYS", x.gone(1), x.on(i, 1));
         }
+        WellLendsDepth six = new WellLendsDepth();
+        for (int b = 0; b < 6; b++) {
+            six.borrower(BORROWER, 0, b + 1, 1);
+        }
+        six.pass(1);
+        for (int b = 0; b < 6; b++) {
+            six.year(-1, 0);
+            six.year(1, b);
+            due("CALLED in is " + b, six.gone(0), 79 + b + 1);
+            six.year(1, 5);
+            due("and the last", six.gone(0), b == 5 ? 85 : 79 + b + 1 + 6);
+        }
         x.year(-1, 0);
         x.year(1, 0);
         due("one that HAS nothing", x.gone(0), 100);
