@@ -737,12 +737,12 @@ public final class WellLendsDepth {
             v[b] = itsV;
             wants[b] = itsWants;
             every[b] = itsEvery;
+            // one that comes has nothing, whoever else of this number an undo may have taken back
             has[b] = 0;
             left[b] = 0;
             owes[b] = 0;
             sent[b] = 0;
             line[b] = b;
-            // an undo may have taken back another borrower of this number
             for (int part = 0; part < 4; part++) {
                 rows[b * 4 + part] = 0;
             }

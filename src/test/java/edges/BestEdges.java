@@ -177,6 +177,10 @@ final class BestEdges extends Edge {
         y.borrower(BORROWER, 0, 99, 20);
         y.depth(104);
         due("whatever MARK is", y.best(2), 5);
+        // TAKING asks for 1 where MARK is 95, for 80 where it is 10: it is SENT by MARK 95 if it asks as MARK is now
+        WellLendsDepth z = Script.well("borrower 5 0 40 20", "depth 96");
+        due("TAKING ASKS as MARK is now", z.of(0, 9), 80);
+        due("but as MARK would be then", z.best(2), 95);
     }
 
     private static void seldom() {

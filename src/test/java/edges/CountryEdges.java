@@ -257,6 +257,14 @@ final class CountryEdges extends Edge {
             due("FINE behind " + ahead, x.told(4), 0);
             due("RATE behind " + ahead, x.of(0, 8), 5);
         }
+        // as many bytes of faulty conditions as can be fed, and then the longest text: it has all its tests
+        WellLendsDepth y = Script.well("borrower 0 0 1 1", "pass 1");
+        for (int i = 0; i < 4; i++) {
+            due("a fault at the end of many tests", Script.read(y, "dear 1 b=1|b=1|b=1|b=1|b=1|b=1|b=1|b=1|b=1|b=1|b=1|b=1|b=1|b=1|b=1|b=1|b=1|b=1|b="), -10 - 81);
+        }
+        due("all its tests", Script.read(y, "dear 7 b=1|b=1|b=1|b=1|b=1|b=1|b=1|b=1|b=1|b=1|b=1|b=1|b=1|b=1|b=1|b=1|b=0;mark 8"), 0);
+        due("RATE behind many tests", y.of(0, 8), 8);
+        due("MARK behind many tests", y.told(2), 8);
     }
 
     /** A test of each sign in turn that holds of the one there is, which has the number 0 and v 5, or does not. */

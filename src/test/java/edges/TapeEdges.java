@@ -8,6 +8,7 @@ final class TapeEdges extends Edge {
     static void all() {
         judgeRefused();
         judged();
+        judgedByNumber();
         judgedOfNone();
         tape();
         tapeBecomes();
@@ -83,6 +84,19 @@ final class TapeEdges extends Edge {
         x.item(0, 59, 20);
         due("the last place of 60", x.judge(0, 59), 101);
         due("behind it", x.judge(0, 60), 100);
+    }
+
+    private static void judgedByNumber() {
+        says(28, "BORROWERS 0 .. 5, as they come,");
+        WellLendsDepth x = Script.well("borrower 0 0 20 20", "borrower 0 0 15 20", "borrower 0 0 12 20", "pass 1",
+            "tape 0 2 3", "item 0 0 20", "item 0 1 15", "item 0 2 12");
+        due("all are so", x.judge(0, 0), NOBODY);
+        x.change(0, 2);
+        due("whatever their places in THE LINE", x.judge(0, 0), NOBODY);
+        x.call(2);
+        due("the number of the BORROWER that is otherwise, not its place", x.judge(0, 0), 2);
+        x.call(0);
+        due("the least such number", x.judge(0, 0), 0);
     }
 
     private static void judgedOfNone() {
